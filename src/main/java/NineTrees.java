@@ -593,7 +593,8 @@ public final class NineTrees {
     private int fullShelves() {
         int full = 0;
         for (int s = 0; s < shelves.length; s++) {
-            if (shelves[s].hasRow() || shelves[s].hasTree()) {
+            Shelf shelf = shelfOf(s);
+            if (shelf != null && (shelf.hasRow() || shelf.hasTree())) {
                 full++;
             }
         }
@@ -602,8 +603,9 @@ public final class NineTrees {
 
     private void clearShelvesFrom(int tree) {
         for (int s = 0; s < shelves.length; s++) {
-            if (shelves[s].tree >= tree) {
-                shelves[s].takeTree(NONE);
+            Shelf shelf = shelfOf(s);
+            if (shelf != null && shelf.tree >= tree) {
+                shelf.takeTree(NONE);
             }
         }
     }
@@ -801,8 +803,7 @@ public final class NineTrees {
         boolean isInOneRow(int set) {
             int one = firstOf(set);
             int other = secondOf(set);
-            return isTree(one) && isTree(other) && !isOf(one, CHERRY) && !isOf(other, CHERRY)
-                    && (set & ~rowOfTwo(one, other)) == 0;
+            return isTree(one) && isTree(other) && (set & ~rowOfTwo(one, other)) == 0;
         }
 
         // -- wishes
@@ -870,12 +871,10 @@ public final class NineTrees {
             count = 0;
             for (int one = 0; one < garden.trees; one++) {
                 for (int other = one + 1; other < garden.trees; other++) {
-                    if (!garden.isOf(one, CHERRY) && !garden.isOf(other, CHERRY)) {
-                        int set = garden.rowOfTwo(one, other);
-                        // Each row comes once: by the first two that stand in it.
-                        if (firstOf(set) == one && secondOf(set) == other) {
-                            insert(set);
-                        }
+                    int set = garden.rowOfTwo(one, other);
+                    // Each row comes once: by the first two that stand in it; no cherry does.
+                    if (firstOf(set) == one && secondOf(set) == other) {
+                        insert(set);
                     }
                 }
             }

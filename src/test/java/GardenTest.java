@@ -15,6 +15,7 @@ public final class GardenTest {
         mirror();
         improve();
         plant();
+        plantBehindTheLast();
         plantUntilFull();
         seed();
         imageAndBack();
@@ -203,6 +204,9 @@ public final class GardenTest {
         NineTrees firm = Checks.planted("side 3;tree 1 0 0;tree 1 1 0;tree 3 2 0");
         due("51: none can be moved", firm.improve(), 1);
         due("51: no trees", new NineTrees().improve(), 0);
+        NineTrees even = Checks.planted("tree 0 0 0;tree 0 1 0;tree 0 2 0");
+        due("51: as many by a move", even.improve(), 1);
+        due("51: is no reason to move", even.treeAt(0), 0);
     }
 
     /** A draw by the document's words, in longs. */
@@ -239,6 +243,28 @@ public final class GardenTest {
         due("52: -1 is bad", y.plant(-1), -2);
         due("52: no draw by that", y.status(7), 1);
         due("52: refusals", y.status(12), 3);
+    }
+
+    private static void plantBehindTheLast() {
+        boolean isTried = false;
+        for (int start = 1; start < 1000 && !isTried; start++) {
+            if ((next(next(start)) >> 16) % 9 == 8) {
+                NineTrees x = Checks.planted("side 3;tree 0 8 0;tree 0 0 0");
+                x.seed(start);
+                x.plant(1);
+                due("52: behind the last: 0, and the next", x.treeAt(1), 2);
+                NineTrees y = Checks.planted("side 3;tree 0 8 0");
+                y.seed(start);
+                y.plant(1);
+                due("52: behind the last: 0", y.treeAt(0), 1);
+                NineTrees z = Checks.planted("side 3;tree 0 7 0");
+                z.seed(start);
+                z.plant(1);
+                due("52: the last, if it is free", z.treeAt(8), 1);
+                isTried = true;
+            }
+        }
+        CHECKS.holds("52: some seed draws the last cell", isTried);
     }
 
     private static void plantUntilFull() {
@@ -345,6 +371,8 @@ public final class GardenTest {
             due("56: another " + what, x.status(what), -1);
         }
         due("56: nothing is refused", x.status(12), 0);
+        due("56: the first a CHERRY", Checks.planted("tree 4 0 0;tree 0 1 0").status(3), 1);
+        due("56: the first FIRM", Checks.planted("tree 1 0 0;tree 0 1 0").status(4), 1);
     }
 
     private static void refusals() {

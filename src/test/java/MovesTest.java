@@ -69,6 +69,11 @@ public final class MovesTest {
             full.tree(0, t, 0);
         }
         best("31: no cell", full, -1, -1, -1);
+        NineTrees fewer = Checks.planted("side 3;tree 1 0 0;tree 0 1 0;tree 0 2 0");
+        best("31: one is broken", fewer, 1, 3, 0);
+        fewer.fell();
+        fewer.fell();
+        best("31: none any more", fewer, -1, -1, -1);
     }
 
     private static void bestBreaks() {
@@ -106,6 +111,17 @@ public final class MovesTest {
         due("33: beyond an empty cell", Checks.planted("side 3;tree 0 0 0;tree 0 8 0").may(), 238);
         due("33: knights", Checks.planted("side 4;tree 0 0 0;tree 0 6 0").may(), 0xffff & ~1 & ~64);
         due("33: knights on 5", Checks.planted("tree 0 0 0;tree 0 7 0").may(), 0x1ffffff & ~1 & ~128 & ~(1 << 14));
+        NineTrees column = Checks.planted("side 8;tree 0 0 0;tree 0 8 0");
+        due("33: a whole column of 8", column.may(), ~0x0101010101010101L);
+        column.move(0, 1);
+        column.move(1, 2);
+        due("33: a whole row of 8", column.may(), ~0xffL);
+        column.move(0, 63);
+        column.move(1, 62);
+        due("33: the last row of 8", column.may(), ~(0xffL << 56));
+        column.move(0, 7);
+        column.move(1, 15);
+        due("33: the last column of 8", column.may(), ~0x8080808080808080L);
         due("33: the last cell of 64", Checks.planted("side 8;tree 0 0 0;tree 0 9 0").may(), ~0x8040201008040201L);
         due("33: twelve trees", Checks.planted("side 4;tree 0 0 0;tree 0 1 0;tree 4 2 0;tree 4 3 0;tree 4 4 0;tree 4 5 0;"
             + "tree 4 6 0;tree 4 7 0;tree 4 8 0;tree 4 9 0;tree 4 10 0;tree 4 11 0").may(), 0xf000);
@@ -177,7 +193,10 @@ public final class MovesTest {
         bestFor("41: no trees", none, -1, -1, -1);
         due("41: NONE isn't refused", none.status(12), 0);
         bestFor("41: none can be moved", Checks.planted("tree 1 0 0;tree 3 1 0;tree 1 9 0;wish 0 1 2"), -1, -1, -1);
-        bestFor("41: no wishes", Checks.planted("tree 1 0 0;tree 0 1 0"), 1, 2, 0);
+        NineTrees fewer = Checks.planted("tree 1 0 0;tree 0 1 0");
+        bestFor("41: no wishes", fewer, 1, 2, 0);
+        fewer.fell();
+        bestFor("41: none any more", fewer, -1, -1, -1);
     }
 
     private static void bestForOfSeveral() {

@@ -110,6 +110,14 @@ public final class RowsTest {
         for (int i = 0; i < twos.length; i++) {
             due("22: two " + i, x.rowAt(2, i), twos[i]);
         }
+        NineTrees y = Checks.planted("tree 0 0 0;tree 0 1 0;tree 0 7 0;tree 0 3 0");
+        int[] sorted = {5, 6, 12};
+        for (int i = 0; i < sorted.length; i++) {
+            due("22: the least ahead of what is found first", y.rowAt(2, i), sorted[i]);
+        }
+        due("22: the three", y.rowAt(3, 0), 11);
+        due("22: the least ahead", Checks.planted("tree 0 0 0;tree 0 6 0;tree 0 1 0;tree 0 12 0;tree 0 2 0").rowAt(3, 0), 11);
+        due("22: the least ahead", Checks.planted("tree 0 0 0;tree 0 6 0;tree 0 1 0;tree 0 2 0;tree 0 12 0").rowAt(3, 0), 13);
         due("22: not so many", x.rowAt(3, 8), -5);
         due("22: not so many", x.rowAt(2, 12), -5);
         due("22: none of four", x.rowAt(4, 0), -5);
@@ -240,6 +248,10 @@ public final class RowsTest {
         due("28: all in one row", y.gap(1), -5);
         due("28: refusals", y.status(15), 4);
         due("28: no trees", new NineTrees().gap(0), -5);
+        for (int t = 0; t < 7; t++) {
+            x.fell();
+        }
+        due("28: none any more", x.gap(1), -5);
     }
 
     private static void gapOfSeveral() {

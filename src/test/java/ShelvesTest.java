@@ -47,8 +47,10 @@ public final class ShelvesTest {
         due("2: last shelf, no elements", x.row(7, 4, 0), 1);
         due("2: empty row is held", x.status(8), 6);
         due("2: an empty row has no element 0", x.set(7, 0, 1), -2);
+        x.set(3, 0, 9);
         x.set(3, 39, 9);
         due("2: a new row for the old", x.row(3, 3, 40), 1);
+        due("2: the new row is all 0", x.element(3, 0), 0);
         due("2: the new row is all 0", x.element(3, 39), 0);
         NineTrees y = new NineTrees();
         int[][] bad = {{-1, 0, 1}, {8, 0, 1}, {0, -1, 1}, {0, 5, 1}, {0, 0, -1}, {0, 0, 41}, {0, 0, BIG}};
@@ -241,12 +243,15 @@ public final class ShelvesTest {
         due("8: CHERRY, no other tree", x.says(0, 4), 0);
         Checks.garden(x, "tree 4 24 1");
         due("8: CHERRY, one far away", x.says(0, 4), 8);
+        x.show(1, 1);
+        due("8: CHERRY, the first far away", x.says(1, 4), 8);
         Checks.garden(x, "tree 2 13 1; tree 0 11 1");
         due("8: CHERRY, the nearest", x.says(0, 4), 3);
         x.show(1, 2);
         due("8: LOW, seen from all", x.says(1, 2), 3);
         Checks.garden(x, "tree 0 12 1");
         due("8: LOW, hidden from one", x.says(1, 2), 3);
+        due("8: LOW as TREE, in a row of three", x.says(1, 0), 1);
         // Each kind can be taken for just itself and those above it.
         boolean[][] fits = {
             {true, false, false, false, false, false}, {true, true, false, false, false, false},

@@ -97,6 +97,10 @@ public final class TapeTest {
         fault("side 100", 5);
         fault("side 4x", 6);
         fault("sides 4", 0);
+        fault("sidea 4", 0);
+        fault("sidez 4", 0);
+        fault("wide 4", 0);
+        fault("free 0 0 0", 0);
         fault("Side 4", 0);
         fault("si de 4", 0);
         fault("side\t4", 4);

@@ -799,7 +799,7 @@ public final class NineTrees {
             return (set & ~allTrees()) == 0 && Integer.bitCount(set) >= 3;
         }
 
-        /** Whether two trees or more of a set stand in one row. */
+        /** Whether a set of two trees or more stands in one row. */
         boolean isInOneRow(int set) {
             int one = firstOf(set);
             int other = secondOf(set);
@@ -1025,22 +1025,19 @@ public final class NineTrees {
             int column = garden.columnOf(garden.cells[one]);
             int down = garden.rowOf(garden.cells[other]) - row;
             int along = garden.columnOf(garden.cells[other]) - column;
-            int parts = commonDivisor(down, along);
+            // The shortest step along the line, so that no cell on it is passed over.
+            for (int parts = MOST_SIDE; parts > 1; parts--) {
+                if (down % parts == 0 && along % parts == 0) {
+                    down /= parts;
+                    along /= parts;
+                }
+            }
             for (int step = -MOST_SIDE; step <= MOST_SIDE; step++) {
-                int cell = garden.cellOf(row + step * (down / parts), column + step * (along / parts));
+                int cell = garden.cellOf(row + step * down, column + step * along);
                 if (cell != NONE) {
                     counts[cell]++;
                 }
             }
-        }
-
-        /** The greatest of two numbers below the side, 1 at least. */
-        private static int commonDivisor(int one, int other) {
-            int found = MOST_SIDE;
-            while (found > 1 && (one % found != 0 || other % found != 0)) {
-                found--;
-            }
-            return found;
         }
     }
 

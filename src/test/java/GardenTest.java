@@ -265,6 +265,14 @@ public final class GardenTest {
             }
         }
         CHECKS.holds("52: some seed draws the last cell", isTried);
+        int start = 1;
+        while (start < 1000 && (next(next(start)) >> 16) % 9 != 7) {
+            start++;
+        }
+        NineTrees x = Checks.planted("side 3;tree 0 7 0");
+        x.seed(start);
+        x.plant(1);
+        due("52: the last behind the one ahead of it", x.treeAt(8), 1);
     }
 
     private static void plantUntilFull() {

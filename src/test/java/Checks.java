@@ -1,6 +1,9 @@
+import java.util.TreeSet;
+
 /** Counts and prints what is not as due; a test ends with finish(). */
 final class Checks {
     private final String test;
+    private final TreeSet<Integer> covered = new TreeSet<>();
     private int wrong;
     private int made;
 
@@ -21,6 +24,16 @@ final class Checks {
         if (!is) {
             wrong++;
             System.out.println(test + ": it does not hold that " + what);
+        }
+    }
+
+    void covers(int promise) {
+        covered.add(promise);
+    }
+
+    void allCovered(int... promises) {
+        for (int promise : promises) {
+            holds("there is a check of promise " + promise, covered.contains(promise));
         }
     }
 

@@ -15,6 +15,9 @@ public final class AnswerEdgesTest {
     /** A whole row of eight, and one off it. */
     private static final String EIGHT = trees("side(8) ", 0, 1, 2, 3, 4, 5, 6, 7, 63);
 
+    /** Three rows of four of a side of eight. */
+    private static final String GRID = trees("side(8) ", 0, 1, 2, 3, 8, 9, 10, 11, 16, 17, 18, 19);
+
     public static void main(String[] args) {
         treeOf();
         treeAt();
@@ -42,6 +45,9 @@ public final class AnswerEdgesTest {
         squares();
         corners();
         pointed();
+        twelve();
+        felled();
+        againBehindAChange();
         int[] promises = new int[31];
         for (int i = 0; i < 31; i++) {
             promises[i] = 18 + i;
@@ -119,6 +125,7 @@ public final class AnswerEdgesTest {
         asks(EIGHT, "rowAt(8,0)=255", "rowAt(2,0)=257", "rowAt(2,7)=384");
         of(22, "by these bits, the least first");
         asks(trees("", 0, 1, 7, 3), "rowAt(2,0)=5", "rowAt(2,1)=6", "rowAt(2,2)=12", "rowAt(3,0)=11");
+        asks(trees("", 0, 6, 1, 2, 12), "rowAt(3,0)=13", "rowAt(3,1)=19", "longest()=13");
     }
 
     private static void longestAndAlone() {
@@ -414,6 +421,7 @@ public final class AnswerEdgesTest {
         of(43, "the CELL (any) with the least sum of distances, of several the first");
         asks("side(8) tree(0,63,0)", "middle()=63");
         asks("side(8) tree(4,0,0)", "middle()=0");
+        asks("side(8) tree(4,1,0)", "middle()=1");
         asks("side(8) tree(0,63,0) tree(0,0,0)", "middle()=0");
         asks("side(8) tree(0,63,0) tree(0,7,0) tree(0,56,0)", "middle()=63");
         asks("side(8) tree(0,63,0) tree(0,62,0)", "middle()=62");
@@ -501,5 +509,64 @@ public final class AnswerEdgesTest {
         of(48, "a ROW of more is one");
         asks(EIGHT, "pointed(0)=1", "pointed(7)=1", "pointed(63)=0", "pointed(8)=0");
         asks(NINE, "pointed(4)=4", "pointed(0)=3", "pointed(8)=3", "pointed(1)=2");
+    }
+
+    private static void twelve() {
+        of(36, "of twelve TREES: from the four CELLS within");
+        asks(trees("side(4) ", 0, 1, 2, 3, 4, 7, 8, 11, 12, 13, 14, 15), "overlooks()=" + 0x660);
+        of(45, "of twelve TREES");
+        asks(GRID, "largest()=6", "threes()=11");
+        asks(ROWLESS, "largest()=32");
+        of(46, "of twelve TREES");
+        asks(GRID, "squares()=10");
+        asks(ROWLESS, "squares()=1");
+        of(47, "of twelve TREES");
+        asks(GRID, "corners()=2313");
+        asks(ROWLESS, "corners()=3495");
+        of(42, "of twelve TREES");
+        asks(trees("side(4) ", 0, 1, 2, 3, 4, 7, 8, 11, 12, 13, 14, 15), "alike()=8");
+        of(35, "of twelve TREES");
+        asks(GRID, "view(0)=" + (1 << 1 | 1 << 4 | 1 << 5 | 1 << 6 | 1 << 7 | 1 << 9 | 1 << 11), "view(63)=" + (0xfff & ~0x21));
+        of(32, "of twelve TREES");
+        // The last cell is in line with cells 0 and 9, and with 61 and 62.
+        asks(ROWLESS, "moved(11,63)=1", "moved(0,63)=1", "moved(4,63)=2");
+    }
+
+    private static void felled() {
+        of(45, "a TREE that was felled counts no more");
+        asks(trees("side(8) ", 0, 1, 8, 63) + "fell()", "largest()=1");
+        of(46, "a TREE that was felled counts no more");
+        asks(trees("side(8) ", 0, 1, 8, 9) + "fell()", "squares()=0");
+        of(47, "a TREE that was felled counts no more");
+        asks(trees("side(8) ", 0, 7, 9, 63) + "fell()", "corners()=7");
+        of(35, "a TREE that was felled counts no more");
+        asks(trees("", 0, 4, 2) + "fell()", "view(0)=2", "overlooks()=" + (0x1ffffff & ~0x11), "behind(0,4)=-1", "paths(1)=3", "alike()=2",
+            "middle()=0", "nearest()=1", "treeAt(2)=-1");
+    }
+
+    /** Rows, lines and moves that an earlier call has found must not be found again when they are gone. */
+    private static void againBehindAChange() {
+        String three = TWO + "tree(0,13,0) ";
+        String cherry = " 'fell;tree 4 7 0' garden()";
+        of(33, "of the garden as it is now");
+        TWINS.runs("side(3) tree(0,0,0) tree(0,8,0)", "may()=" + (511 & ~0x111), "fell()=1", "may()=510", "fell()=0", "may()=511");
+        long line = 1 | 1 << 6 | 1 << 12 | 1 << 18 | 1 << 24;
+        asks(TWO + "tree(0,7,0) may()" + cherry, "may()=" + (0x1ffffff & ~(line | 1 << 7)));
+        of(48, "of the garden as it is now");
+        TWINS.runs(TWO + "tree(0,12,0)", "pointed(0)=1", "fell()=2", "pointed(0)=0", "pointed(24)=0");
+        asks(trees("", 0, 6, 1, 2, 12) + "pointed(0) fell()", "pointed(0)=1", "pointed(4)=1", "pointed(24)=0");
+        of(31, "of the garden as it is now");
+        TWINS.runs(three, "best(2)=1", "fell()=2", "best(2)=0", "fell()=1", "fell()=0", "best(0)=-1", "best(1)=-1", "best(2)=-1");
+        asks(TWO + "tree(0,7,0) best(0)" + cherry, "best(2)=0", "best(0)=0", "best(1)=1", "moved(1,14)=0");
+        of(32, "of the garden as it is now");
+        TWINS.runs(three, "moved(2,12)=1", "moved(2,1)=0", "moved(0,20)=0", "moved(2,24)=1");
+        of(41, "of the garden as it is now");
+        TWINS.runs(three + "wish(7)", "best(2)=1", "bestFor(2)=1", "content()=1", "bestFor(0)=0", "bestFor(1)=1", "bestFor(2)=0",
+            "fell()=2", "fell()=1", "fell()=0", "bestFor(0)=-1", "bestFor(1)=-1", "bestFor(2)=-1");
+        TWINS.runs("tree(1,0,0) tree(1,6,0) tree(0,12,0) tree(4,13,0) wish(7)", "bestFor(0)=2", "bestFor(1)=18", "bestFor(2)=1", "threes()=1",
+            "content()=1", "bestFor(2)=0", "bestFor(0)=2", "bestFor(1)=1");
+        of(20, "of the garden as it is now");
+        TWINS.runs(NINE, "many(2)=12", "status(2)=20", "fell()=8", "threes()=5", "many(3)=5", "longest()=7", "alone()=0", "status(2)=" + 18);
+        TWINS.runs(three, "longest()=3", "status(2)=3", "fell()=2", "status(2)=1", "rowAt(2,0)=3", "many(2)=1");
     }
 }

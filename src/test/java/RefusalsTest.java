@@ -231,6 +231,7 @@ public final class RefusalsTest {
         TWINS.stuck(THREE + "move(2,12)", "rowAt(3,1)", "rowAt(2,0)", "rowAt(4,0)");
         TWINS.stuck(NEW, "rowAt(2,0)", "rowAt(12,0)", "rowAt(2,MAX)");
         TWINS.stuck("tree(0,0,0)", "rowAt(2,0)");
+        TWINS.stuck(THREE + "rowAt(2,0) fell()", "rowAt(2,1)", "rowAt(2,2)");
 
         TWINS.of(23, "longest: STUCK: there is none");
         TWINS.stuck(NEW, "longest()");
@@ -289,6 +290,8 @@ public final class RefusalsTest {
         TWINS.stuck("tree(0,0,0) tree(0,6,0) tree(0,12,0) tree(0,24,0)", "gap(0)", "gap(1)");
         TWINS.stuck("tree(0,0,0) tree(0,6,0) tree(4,1,0)", "gap(0)", "gap(1)");
         TWINS.stuck(THREE + "fell()", "gap(0)", "gap(1)");
+        TWINS.stuck(THREE + "gap(0) gap(1) fell()", "gap(0)", "gap(1)");
+        TWINS.stuck(THREE + "gap(0) move(2,12)", "gap(0)", "gap(1)");
 
         TWINS.of(29, "missed: BAD");
         TWINS.bad(RICH, "missed(-1)", "missed(8)", "missed(MIN)", "missed(MAX)");

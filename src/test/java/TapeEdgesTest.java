@@ -89,6 +89,15 @@ public final class TapeEdgesTest {
         for (String word : new String[] {"sid", "tre", "wis", "mov", "fel", "sides", "trees", "wishe", "moved", "felle", "SIDE", "Tree"}) {
             fault(FOUR, word, 0);
         }
+        of("a WORD that is none by one letter");
+        for (String word : new String[] {"side", "tree", "wish", "move", "fell"}) {
+            for (int i = 0; i < 4; i++) {
+                for (int by = -1; by <= 1; by += 2) {
+                    char letter = (char) (word.charAt(i) + by);
+                    fault(word.equals("side") || word.equals("tree") ? NEW : FOUR, word.substring(0, i) + letter + word.substring(i + 1), 0);
+                }
+            }
+        }
         of("a byte that begins none, beside a .. z");
         fault(NEW, "`", 0);
         fault(NEW, "{", 0);
